@@ -297,18 +297,19 @@ public final class EdgeHouse {
         return h >>> 16;
     }
 
-    /** The node of a KEY among first .. last; those that asker shuns are left out (asker null: none is). */
+    /** The node of a KEY among first .. last; those that asker (may be null) shuns come behind all others. */
     private int ringNode(int first, int last, int path, int variant, Node asker) {
         int spot = hash(64 + path, variant);
         int best = NONE;
         int bestWay = 0;
         for (int n = first; n <= last; n++) {
-            if (!nodes[n].up || asker != null && asker.shuns(n, clock)) {
+            if (!nodes[n].up) {
                 continue;
             }
+            int detour = asker != null && asker.shuns(n, clock) ? 0x10000 : 0;
             for (int j = 0; j < POINTS_PER_NODE; j++) {
                 // the way round the ring from the spot puts points below it behind all the others
-                int way = points[n * POINTS_PER_NODE + j] - spot & 0xFFFF;
+                int way = (points[n * POINTS_PER_NODE + j] - spot & 0xFFFF) + detour;
                 if (best == NONE || way < bestWay) {
                     best = n;
                     bestWay = way;
@@ -316,17 +317,6 @@ public final class EdgeHouse {
             }
         }
         return best;
-    }
-
-    private int nodeToAsk(Node node, int path, int variant) {
-        if (!isEdge(node.id)) {
-            return 0;
-        }
-        int trusted = ringNode(FIRST_PARENT, LAST_PARENT, path, variant, node);
-        if (trusted != NONE) {
-            return trusted;
-        }
-        return ringNode(FIRST_PARENT, LAST_PARENT, path, variant, null);
     }
 
     private void send(Message message) {
@@ -347,12 +337,19 @@ public final class EdgeHouse {
             return;
         }
         Node node = nodes[message.to];
-        if (message.kind == FETCH) {
-            look(node, new Request(message));
-        } else if (message.kind == PURGE) {
+        if (message.kind == PURGE) {
             takePurge(node, message);
-        } else {
-            lookAgain(node, takeFill(node, message));
+            return;
+        }
+        boolean again = message.kind == FILL;
+        Request next = again ? takeFill(node, message) : new Request(message);
+        while (next != null) {
+            Request r = next;
+            // a request that is looked at may come into another chain
+            next = r.behind;
+            r.behind = null;
+            r.again = again;
+            look(node, r);
         }
     }
 
@@ -405,6 +402,9 @@ public final class EdgeHouse {
             return null;
         }
         Entry entry = takeIn(node, fetch, fill);
+        if (!fill.told.noStore) {
+            node.store.place(entry);
+        }
         Request first = fetch.head;
         if (first == null || !entry.isEnoughFor(first)) {
             return first;
@@ -437,6 +437,7 @@ public final class EdgeHouse {
         return told.isPurgedBy(purgedBy[number], purgedWhich[number]);
     }
 
+    /** The ENTRY that a FILL makes; what it comes in place of goes. */
     private Entry takeIn(Node node, Fetch fetch, Message fill) {
         Told told = fill.told;
         Entry entry = new Entry(fetch.path, fetch.variant, told, told.whichFor(fetch.language, fetch.form));
@@ -452,29 +453,15 @@ public final class EdgeHouse {
         if (old != null) {
             node.store.remove(old);
         }
-        if (!told.noStore) {
-            entry.kept = old != null && old.kept;
-            node.store.place(entry);
-        }
+        entry.kept = old != null && old.kept;
         return entry;
-    }
-
-    private void lookAgain(Node node, Request chain) {
-        Request next;
-        for (Request r = chain; r != null; r = next) {
-            // a request that is looked at may come into another chain
-            next = r.behind;
-            r.behind = null;
-            r.again = true;
-            look(node, r);
-        }
     }
 
     private void look(Node node, Request r) {
         Entry entry = node.store.suiting(r);
         int age = entry == null ? 0 : entry.ageAt(clock);
         boolean usable = entry != null && !r.forced && entry.mark >= r.least;
-        int missing = usable ? entry.missingFor(r) : 0;
+        int missing = usable ? r.missingIn(entry) : 0;
         boolean fresh = usable && r.takesFresh(entry.told, age);
         if (fresh && missing == 0) {
             node.hits++;
@@ -488,15 +475,19 @@ public final class EdgeHouse {
         } else if (r.onlyIfCached) {
             endAll(node, r, 504);
         } else {
-            letWait(node, r, fresh && !r.again ? missing : 0);
+            Fetch fetch = letWait(node, r, fresh && !r.again ? missing : 0);
+            if (fetch != null && !sendFetch(node, fetch)) {
+                failAll(node, r);
+            }
         }
     }
 
-    private void letWait(Node node, Request r, int missing) {
+    /** Puts the request behind the FETCH that is out, or else behind a new one, which is answered to be sent. */
+    private Fetch letWait(Node node, Request r, int missing) {
         Fetch out = node.fetchOf(r.path, r.variant);
         if (out != null) {
             out.join(r);
-            return;
+            return null;
         }
         node.misses++;
         Fetch fetch = new Fetch(r);
@@ -505,14 +496,15 @@ public final class EdgeHouse {
             fetch.last = 31 - Integer.numberOfLeadingZeros(missing);
         }
         fetch.join(r);
-        if (!sendFetch(node, fetch)) {
-            failAll(node, r);
-        }
+        return fetch;
     }
 
     /** Makes the fetch go out with the next number; false if there is no node to ask. */
     private boolean sendFetch(Node node, Fetch fetch) {
-        int to = nodeToAsk(node, fetch.path, fetch.variant);
+        int to = 0;
+        if (isEdge(node.id)) {
+            to = ringNode(FIRST_PARENT, LAST_PARENT, fetch.path, fetch.variant, node);
+        }
         if (to == NONE) {
             return false;
         }
@@ -530,13 +522,9 @@ public final class EdgeHouse {
     }
 
     private void endOverdue(Node node) {
-        for (int i = 0; i < node.fetches.size();) {
-            Fetch fetch = node.fetches.get(i);
-            if (clock - fetch.since < FETCH_TICKS) {
-                i++;
-                continue;
-            }
-            node.fetches.remove(i);
+        // fetches stand by their numbers, and so by the ticks at which they went out
+        while (!node.fetches.isEmpty() && clock - node.fetches.get(0).since >= FETCH_TICKS) {
+            Fetch fetch = node.fetches.remove(0);
             if (isEdge(node.id)) {
                 node.strike(fetch.to, clock);
             }
@@ -663,27 +651,21 @@ public final class EdgeHouse {
         int tagCount;
         int ifRange = NONE;
 
-        boolean hasSpan() {
-            return range == SPAN && first <= last;
-        }
-
         boolean rangeCounts(int tag) {
-            boolean told = hasSpan() || range == TAIL;
-            return told && (ifRange == NONE || ifRange == tag);
+            return range != ALL && (ifRange == NONE || ifRange == tag);
         }
 
-        int from(int tag, int length) {
-            if (!rangeCounts(tag)) {
+        /** The first byte that is wanted, if the range counts or not. */
+        int from(boolean counts, int length) {
+            if (!counts) {
                 return 0;
             }
             return range == SPAN ? first : Math.max(0, length - first);
         }
 
-        int to(int tag, int length) {
-            if (!rangeCounts(tag) || range == TAIL) {
-                return length - 1;
-            }
-            return Math.min(last, length - 1);
+        /** The last byte that is wanted; it is below the first one if there is none. */
+        int to(boolean counts, int length) {
+            return counts && range == SPAN ? Math.min(last, length - 1) : length - 1;
         }
 
         void addTag(int tag) {
@@ -742,18 +724,20 @@ public final class EdgeHouse {
             has = fetch.has;
         }
 
-        /** The BLOCKS of the bytes that are wanted, as bits. */
-        int wanted(Told told, int tag) {
+        /** The BLOCKS of the bytes that are wanted which the entry has not, as bits. */
+        int missingIn(Entry entry) {
+            Told told = entry.told;
             if (conditions == null) {
-                return told.blocks(first, last);
+                return told.blocks(first, last) & ~entry.blocks;
             }
-            int from = conditions.from(tag, told.length);
-            int to = conditions.to(tag, told.length);
-            return from > to ? 0 : told.blocks(from >> 4, to >> 4);
+            boolean counts = conditions.rangeCounts(entry.tag());
+            int from = conditions.from(counts, told.length);
+            int to = conditions.to(counts, told.length);
+            return from > to ? 0 : told.blocks(from >> 4, to >> 4) & ~entry.blocks;
         }
 
         void chooseBlocks() {
-            if (conditions != null && conditions.hasSpan() && conditions.ifRange == NONE) {
+            if (conditions != null && conditions.range == Conditions.SPAN && conditions.ifRange == NONE) {
                 first = Math.min(conditions.first, 255) >> 4;
                 last = Math.min(conditions.last, 255) >> 4;
             }
@@ -797,9 +781,9 @@ public final class EdgeHouse {
             vary = entry.told.vary;
             length = entry.told.length;
             seed = 31 * entry.path + 17 * entry.variant + 5 * which + 13 * version;
-            from = asked.from(tag, length);
-            int bytes = Math.max(0, asked.to(tag, length) - from + 1);
             boolean part = asked.rangeCounts(tag);
+            from = asked.from(part, length);
+            int bytes = Math.max(0, asked.to(part, length) - from + 1);
             if (asked.matches(tag)) {
                 status = 304;
             } else if (part && bytes == 0) {
@@ -914,13 +898,9 @@ public final class EdgeHouse {
             return isOf(r.path, r.variant) && which == told.whichFor(r.language, r.form);
         }
 
-        int missingFor(Request r) {
-            return r.wanted(told, tag()) & ~blocks;
-        }
-
         /** Whether it SUITS and HAS the request, but for FORCED and no-cache. */
         boolean isEnoughFor(Request r) {
-            return suits(r) && mark >= r.least && missingFor(r) == 0;
+            return suits(r) && mark >= r.least && r.missingIn(this) == 0;
         }
 
         int tag() {
@@ -1076,7 +1056,8 @@ public final class EdgeHouse {
         void use(Entry entry) {
             remove(entry);
             entry.kept = true;
-            place(entry);
+            held.add(entry);
+            balance();
         }
 
         int sizeOf(ArrayList<Entry> part) {
@@ -1201,12 +1182,8 @@ public final class EdgeHouse {
             return purge >= 1 && purge < known.length && known[purge];
         }
 
-        static boolean isParent(int n) {
-            return n >= FIRST_PARENT && n <= LAST_PARENT;
-        }
-
         void strike(int parent, int now) {
-            if (!isParent(parent)) {
+            if (parent < FIRST_PARENT || parent > LAST_PARENT) {
                 return;
             }
             strikes[parent]++;
@@ -1217,14 +1194,14 @@ public final class EdgeHouse {
         }
 
         void trust(int parent) {
-            if (isParent(parent)) {
+            if (parent >= FIRST_PARENT && parent <= LAST_PARENT) {
                 strikes[parent] = 0;
                 shunUntil[parent] = 0;
             }
         }
 
         boolean shuns(int parent, int now) {
-            return isParent(parent) && now < shunUntil[parent];
+            return parent >= FIRST_PARENT && parent <= LAST_PARENT && now < shunUntil[parent];
         }
 
         void goDown() {
@@ -1376,11 +1353,13 @@ public final class EdgeHouse {
         int fault = NONE;
         final int[] names = new int[MOST_TAPE];
         int nameCount;
-        int nameStart;
+        int wordStart;
+        int wordEnd;
+        boolean bare;
         int number;
         int path;
         int variant;
-        final int[] weights = new int[5];
+        final int[] weights = new int[4];
         Request request;
         Conditions conditions;
         Told told;
@@ -1409,7 +1388,11 @@ public final class EdgeHouse {
         Told readThing() {
             begin();
             told = new Told();
-            if (!expectText("PUT ") || !readTarget(false) || !readLines(true)) {
+            boolean good = expectText("PUT ") && readTarget(false);
+            for (int i = 0; i < MOST_TAPE && good && here() != '\n'; i++) {
+                good = readName() && readToldValue() && expect('\n');
+            }
+            if (!good || !readEnd()) {
                 return null;
             }
             told.path = path;
@@ -1421,17 +1404,17 @@ public final class EdgeHouse {
             request = new Request();
             conditions = new Conditions();
             conditions.head = here() == 'H';
-            for (int i = 0; i < weights.length; i++) {
-                weights[i] = 0;
+            boolean good = expectText(conditions.head ? "HEAD " : "GET ") && readTarget(true);
+            for (int i = 0; i < MOST_TAPE && good && here() != '\n'; i++) {
+                good = readName() && readAskedValue() && expect('\n');
             }
-            if (!expectText(conditions.head ? "HEAD " : "GET ") || !readTarget(true) || !readLines(false)) {
+            if (!good || !readEnd()) {
                 return null;
             }
             request.path = path;
             request.variant = variant;
-            request.conditions = conditions;
             request.language = heaviestLanguage();
-            request.form = weights[4] > 0 ? 1 : 0;
+            request.conditions = conditions;
             request.chooseBlocks();
             return request;
         }
@@ -1440,6 +1423,9 @@ public final class EdgeHouse {
             at = 0;
             fault = NONE;
             nameCount = 0;
+            for (int i = 0; i < weights.length; i++) {
+                weights[i] = 0;
+            }
         }
 
         int heaviestLanguage() {
@@ -1514,16 +1500,7 @@ public final class EdgeHouse {
             return expect('\n');
         }
 
-        boolean readLines(boolean ofThing) {
-            for (int i = 0; i < MOST_TAPE && here() != '\n'; i++) {
-                if (!readName()) {
-                    return false;
-                }
-                boolean good = ofThing ? readToldValue() : readAskedValue();
-                if (!good || !expect('\n')) {
-                    return false;
-                }
-            }
+        boolean readEnd() {
             return expect('\n') && (at == length || no(at));
         }
 
@@ -1534,21 +1511,22 @@ public final class EdgeHouse {
         }
 
         boolean readName() {
-            nameStart = at;
+            wordStart = at;
             skipLetters();
-            if (at == nameStart) {
+            wordEnd = at;
+            if (at == wordStart) {
                 return no(at);
             }
-            if (at - nameStart > MOST_NAME) {
-                return no(nameStart);
+            if (at - wordStart > MOST_NAME) {
+                return no(wordStart);
             }
             if (here() != ':') {
                 return no(at);
             }
             if (wasThere() || nameCount >= names.length) {
-                return no(nameStart);
+                return no(wordStart);
             }
-            names[nameCount] = nameStart;
+            names[nameCount] = wordStart;
             nameCount++;
             at++;
             if (here() == ' ') {
@@ -1559,7 +1537,7 @@ public final class EdgeHouse {
 
         boolean wasThere() {
             for (int i = 0; i < nameCount; i++) {
-                if (isSame(names[i], nameStart, at - nameStart)) {
+                if (isSame(names[i], wordStart, wordEnd - wordStart)) {
                     return true;
                 }
             }
@@ -1576,60 +1554,56 @@ public final class EdgeHouse {
             return true;
         }
 
-        boolean isWord(String word, int start, int end) {
-            if (end - start != word.length() || start < 0 || end > length) {
+        /** Whether the word that was read last is this one. */
+        boolean isWord(String word) {
+            if (wordEnd - wordStart != word.length() || wordStart < 0 || wordEnd > tape.length) {
                 return false;
             }
             for (int i = 0; i < word.length(); i++) {
-                if (tape[start + i] != word.charAt(i)) {
+                if (tape[wordStart + i] != word.charAt(i)) {
                     return false;
                 }
             }
             return true;
         }
 
-        boolean isName(String word) {
-            int end = nameStart + word.length();
-            return end < length && tape[end] == ':' && isWord(word, nameStart, end);
-        }
-
         boolean readToldValue() {
-            if (isName("length")) {
+            if (isWord("length")) {
                 boolean good = readNumber(255);
                 told.length = number;
                 return good;
             }
-            if (isName("cache-control")) {
+            if (isWord("cache-control")) {
                 return readList(KEEPING);
             }
-            if (isName("vary")) {
+            if (isWord("vary")) {
                 return readList(VARYING);
             }
-            if (isName("keys")) {
+            if (isWord("keys")) {
                 return readKeys();
             }
             return skipValue();
         }
 
         boolean readAskedValue() {
-            if (isName("range")) {
+            if (isWord("range")) {
                 return readRange();
             }
-            if (isName("if-none-match")) {
-                return readTags();
+            if (isWord("if-none-match")) {
+                return readMatch();
             }
-            if (isName("if-range")) {
-                boolean good = readTag();
+            if (isWord("if-range")) {
+                boolean good = expect('"') && readNumber(MOST_NUMBER) && expect('"');
                 conditions.ifRange = number;
                 return good;
             }
-            if (isName("accept-language")) {
+            if (isWord("accept-language")) {
                 return readList(LANGUAGES);
             }
-            if (isName("accept-encoding")) {
+            if (isWord("accept-encoding")) {
                 return readList(FORMS);
             }
-            if (isName("cache-control")) {
+            if (isWord("cache-control")) {
                 return readList(ASKED);
             }
             return skipValue();
@@ -1672,29 +1646,33 @@ public final class EdgeHouse {
             if (!readNumber(MOST_NUMBER)) {
                 return false;
             }
-            conditions.range = Conditions.SPAN;
-            conditions.first = number;
-            conditions.last = MOST_NUMBER;
-            if (!expect('-') || !isDigit(here())) {
-                return fault == NONE;
+            int first = number;
+            int last = MOST_NUMBER;
+            if (!expect('-')) {
+                return false;
             }
-            boolean good = readNumber(MOST_NUMBER);
-            conditions.last = number;
-            return good;
+            if (isDigit(here())) {
+                if (!readNumber(MOST_NUMBER)) {
+                    return false;
+                }
+                last = number;
+            }
+            if (first <= last) {
+                conditions.range = Conditions.SPAN;
+                conditions.first = first;
+                conditions.last = last;
+            }
+            return true;
         }
 
-        boolean readTag() {
-            return expect('"') && readNumber(MOST_NUMBER) && expect('"');
-        }
-
-        boolean readTags() {
+        boolean readMatch() {
             if (here() == '*') {
                 at++;
                 conditions.anyTag = true;
                 return true;
             }
             for (int i = 0; i < conditions.tags.length; i++) {
-                if (!readTag()) {
+                if (!expect('"') || !readNumber(MOST_NUMBER) || !expect('"')) {
                     return false;
                 }
                 conditions.addTag(number);
@@ -1711,24 +1689,20 @@ public final class EdgeHouse {
 
         boolean readList(int kind) {
             for (int i = 0; i < MOST_TAPE; i++) {
-                int start = at;
-                skipLetters();
-                int end = at;
-                if (end == start) {
-                    return no(at);
+                if (!readWord()) {
+                    return false;
                 }
-                if (end - start > MOST_WORD) {
-                    return no(start);
+                if (kind == LANGUAGES) {
+                    weighLanguage();
+                } else if (kind == FORMS) {
+                    weighForm();
+                } else if (kind == ASKED) {
+                    countAsked();
+                } else if (kind == KEEPING) {
+                    countKeeping();
+                } else {
+                    countVarying();
                 }
-                int value = NONE;
-                if (here() == '=') {
-                    at++;
-                    if (!readNumber(MOST_NUMBER)) {
-                        return false;
-                    }
-                    value = number;
-                }
-                countWord(kind, start, end, value);
                 if (here() != ',') {
                     return true;
                 }
@@ -1740,77 +1714,75 @@ public final class EdgeHouse {
             return no(at);
         }
 
-        void countWord(int kind, int start, int end, int value) {
-            switch (kind) {
-                case LANGUAGES:
-                    weighLanguage(start, end, value == NONE ? 9 : value);
-                    break;
-                case FORMS:
-                    if (isWord("gzip", start, end)) {
-                        weights[4] = value == NONE ? 9 : value;
-                    }
-                    break;
-                case ASKED:
-                    countAsked(start, end, value);
-                    break;
-                case KEEPING:
-                    countKeeping(start, end, value);
-                    break;
-                default:
-                    countVarying(start, end, value);
-                    break;
+        boolean readWord() {
+            wordStart = at;
+            skipLetters();
+            wordEnd = at;
+            if (at == wordStart) {
+                return no(at);
             }
+            if (at - wordStart > MOST_WORD) {
+                return no(wordStart);
+            }
+            bare = here() != '=';
+            if (bare) {
+                return true;
+            }
+            at++;
+            return readNumber(MOST_NUMBER);
         }
 
-        void weighLanguage(int start, int end, int weight) {
-            if (isWord("en", start, end)) {
+        void weighLanguage() {
+            int weight = bare ? 9 : number;
+            if (isWord("en")) {
                 weights[0] = weight;
-            } else if (isWord("de", start, end)) {
+            } else if (isWord("de")) {
                 weights[1] = weight;
-            } else if (isWord("fr", start, end)) {
+            } else if (isWord("fr")) {
                 weights[2] = weight;
-            } else if (isWord("it", start, end)) {
+            } else if (isWord("it")) {
                 weights[3] = weight;
             }
         }
 
-        void countAsked(int start, int end, int value) {
-            boolean bare = value == NONE;
-            if (isWord("max-stale", start, end)) {
-                request.maxStale = bare ? ANY_AGE : value;
-            } else if (bare && isWord("no-cache", start, end)) {
+        void weighForm() {
+            if (isWord("gzip")) {
+                request.form = bare || number > 0 ? 1 : 0;
+            }
+        }
+
+        void countAsked() {
+            if (isWord("max-stale")) {
+                request.maxStale = bare ? ANY_AGE : number;
+            } else if (bare && isWord("no-cache")) {
                 request.forced = true;
-            } else if (bare && isWord("only-if-cached", start, end)) {
+            } else if (bare && isWord("only-if-cached")) {
                 request.onlyIfCached = true;
-            } else if (!bare && isWord("max-age", start, end)) {
-                request.maxAge = value;
-            } else if (!bare && isWord("min-fresh", start, end)) {
-                request.minFresh = value;
+            } else if (!bare && isWord("max-age")) {
+                request.maxAge = number;
+            } else if (!bare && isWord("min-fresh")) {
+                request.minFresh = number;
             }
         }
 
-        void countKeeping(int start, int end, int value) {
-            boolean bare = value == NONE;
-            if (bare && isWord("no-store", start, end)) {
+        void countKeeping() {
+            if (bare && isWord("no-store")) {
                 told.noStore = true;
-            } else if (bare && isWord("no-cache", start, end)) {
+            } else if (bare && isWord("no-cache")) {
                 told.noCache = true;
-            } else if (!bare && isWord("max-age", start, end)) {
-                told.maxAge = value;
-            } else if (!bare && isWord("stale-if-error", start, end)) {
-                told.staleIfError = value;
-            } else if (!bare && isWord("stale-while-revalidate", start, end)) {
-                told.staleWhile = value;
+            } else if (!bare && isWord("max-age")) {
+                told.maxAge = number;
+            } else if (!bare && isWord("stale-if-error")) {
+                told.staleIfError = number;
+            } else if (!bare && isWord("stale-while-revalidate")) {
+                told.staleWhile = number;
             }
         }
 
-        void countVarying(int start, int end, int value) {
-            if (value != NONE) {
-                return;
-            }
-            if (isWord("accept-language", start, end)) {
+        void countVarying() {
+            if (bare && isWord("accept-language")) {
                 told.vary |= 1;
-            } else if (isWord("accept-encoding", start, end)) {
+            } else if (bare && isWord("accept-encoding")) {
                 told.vary |= 2;
             }
         }
