@@ -556,7 +556,7 @@ public final class EdgeHouse {
     }
 
     private void serve(Node node, Request r, Entry entry, int how) {
-        if (r.reply == null) {
+        if (r.reply == null || r.conditions == null) {
             sendFill(node.id, r, entry);
             return;
         }
