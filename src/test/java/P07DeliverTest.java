@@ -240,6 +240,10 @@ public final class P07DeliverTest {
         c.due("the first", c.answer(a), "[404, 0, 0, 0, 0, 15, 1, 5, 0]");
         c.due("the second", c.text(b), "404 Not Found\n\n");
         c.due("none waits", c.x.node(5, 7), 0);
+        c.ask("GET /9/3\n\n");
+        c.x.deliver(0);
+        c.x.deliver(0);
+        c.due("404 of another variant", c.message(0), "[1, 0, 1, 4, 9, 3, 404, 0, 0, 0, 0, 0]");
     }
 
     private static void toANodeThatIsDown(Check c) {

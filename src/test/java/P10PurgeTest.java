@@ -7,6 +7,8 @@ public final class P10PurgeTest {
         byPath(c);
         byKey(c);
         nothingOlderComesBack(c);
+        refusedWithoutANodeToAsk(c);
+        refusedByTheLastOne(c);
         refusedByKey(c);
         notRefused(c);
         forgottenByAFall(c);
@@ -115,6 +117,45 @@ public final class P10PurgeTest {
         c.due("the parent's entry is too old", c.message(last), "[0, 1, 0, 2, 1, 0, 0, 15, 0, 0, 1, 0]");
         c.x.tick(1);
         c.due("then it fails", c.x.answer(r, 0), 504);
+    }
+
+    private static void refusedWithoutANodeToAsk(Check c) {
+        c.fresh();
+        c.put("PUT /1\nlength: 9\nvary: accept-language\ncache-control: max-age=90\n\n");
+        int a = c.ask("GET /1\n\n");
+        int b = c.ask("GET /1\naccept-language: de\n\n");
+        c.x.deliver(0);
+        c.x.deliver(0);
+        c.x.deliver(0);
+        c.x.purge(0, 1);
+        c.x.deliver(5);
+        c.x.fail(1);
+        c.x.fail(2);
+        c.x.tick(2);
+        c.x.deliver(0);
+        c.due("it fails", c.answer(a), "[504, 0, 0, 0, 0, 21, 2, 5, 0]");
+        c.due("for all that wait", c.x.answer(b, 0), 504);
+        c.due("nothing is out", c.node(5), "[1, 0, 0, 0, 0, 1, 0, 0, 1, 0, 0, 0, 0]");
+    }
+
+    private static void refusedByTheLastOne(Check c) {
+        c.fresh();
+        c.put("PUT /1\nlength: 9\ncache-control: max-age=90\n\n");
+        for (int i = 0; i < 59; i++) {
+            c.x.purge(0, 2);
+            c.x.settle();
+        }
+        int r = c.ask("GET /1\n\n");
+        c.x.deliver(0);
+        c.x.deliver(0);
+        c.due("mark 59", c.x.message(0, 8), 59);
+        c.due("the 60th", c.x.purge(0, 1), 60);
+        c.x.deliver(1);
+        c.x.deliver(0);
+        c.due("refused", c.message(c.x.total(0) - 1), "[0, 1, 0, 2, 1, 0, 0, 15, 60, 0, 0, 0]");
+        c.x.settle();
+        c.due("answered", c.x.answer(r, 0), 200);
+        c.due("mark 60", c.x.entry(5, 1, 0, 0, 3), 60);
     }
 
     private static void refusedByKey(Check c) {

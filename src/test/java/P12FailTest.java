@@ -106,5 +106,14 @@ public final class P12FailTest {
         c.due("down", c.node(5), "[0, 0, 0, 0, 0, 3, 0, 0, 0, 0, 0, 0, 0]");
         c.x.back(5);
         c.due("back", c.node(5), "[1, 0, 0, 0, 0, 3, 0, 0, 0, 0, 0, 0, 0]");
+        c.fresh();
+        c.ask("GET /31\n\n");
+        c.ask("GET /12/2\n\n");
+        c.ask("GET /12/3\n\n");
+        c.x.tick(10);
+        c.due("struck by the other parent", c.node(5), "[1, 0, 0, 0, 0, 3, 0, 0, 0, 0, 1, 0, 30]");
+        c.x.fail(5);
+        c.x.back(5);
+        c.due("back again", c.node(5), "[1, 0, 0, 0, 0, 3, 0, 0, 0, 0, 0, 0, 0]");
     }
 }

@@ -15,6 +15,8 @@ public final class P13BackTest {
         }
         seenIsTheOrder(c);
         parentIsTrusted(c);
+        trustedByAllEdges(c);
+        knowsNoPurgeYet(c);
         edgeDoesNotChangeOthers(c);
         emptyButAlive(c);
         c.end();
@@ -49,6 +51,38 @@ public final class P13BackTest {
         c.due("edge 5 then", c.node(5), "[1, 0, 0, 0, 0, 3, 0, 0, 0, 0, 0, 0, 0]");
         c.due("edge 4 then", c.node(4), "[1, 0, 0, 0, 0, 1, 0, 0, 0, 0, 0, 0, 0]");
         c.due("the other parent's stay", c.node(6), "[1, 0, 0, 0, 0, 1, 0, 0, 0, 0, 1, 0, 0]");
+    }
+
+    private static void trustedByAllEdges(Check c) {
+        // a key of each edge whose parent is 1, and one whose parent is 2
+        String[] ofOne = {"/24", "/0", "/1", "/5"};
+        String[] ofTwo = {"/8", "/3", "/31", "/2"};
+        for (int parent = 1; parent <= 2; parent++) {
+            for (int i = 0; i < 4; i++) {
+                c.fresh();
+                c.ask("GET " + (parent == 1 ? ofOne[i] : ofTwo[i]) + "\n\n");
+                c.x.tick(10);
+                c.due("a strike of edge " + (3 + i), c.x.node(3 + i, 8 + parent), 1);
+                c.x.fail(parent);
+                c.x.back(parent);
+                c.due("none of edge " + (3 + i), c.x.node(3 + i, 8 + parent), 0);
+            }
+        }
+    }
+
+    private static void knowsNoPurgeYet(Check c) {
+        c.fresh();
+        c.put("PUT /1\nlength: 9\ncache-control: max-age=90\n\n");
+        c.x.fail(5);
+        c.x.back(5);
+        int r = c.ask("GET /1\n\n");
+        c.x.deliver(0);
+        c.x.deliver(0);
+        c.x.deliver(0);
+        c.x.purge(0, 1);
+        c.x.deliver(0);
+        c.due("the purge has not come: the fill is taken in", c.x.answer(r, 0), 200);
+        c.due("its mark", c.x.entry(5, 1, 0, 0, 3), 0);
     }
 
     private static void edgeDoesNotChangeOthers(Check c) {
