@@ -535,7 +535,7 @@ public final class EdgeHouse {
     private void failAll(Node node, Request chain) {
         for (Request r = chain; r != null; r = r.behind) {
             Entry entry = node.store.suiting(r);
-            if (entry != null && entry.isEnoughFor(r) && entry.ageAt(clock) < entry.told.life() + entry.told.staleIfError) {
+            if (entry != null && entry.isEnoughFor(r) && entry.told.helpsOnError(entry.ageAt(clock))) {
                 serve(node, r, entry, STALE);
             } else if (r.reply != null) {
                 close(r.reply, 504);
@@ -618,6 +618,10 @@ public final class EdgeHouse {
 
         int life() {
             return noCache ? 0 : maxAge;
+        }
+
+        boolean helpsOnError(int age) {
+            return age < life() + staleIfError;
         }
 
         int whichFor(int language, int form) {
