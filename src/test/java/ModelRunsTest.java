@@ -3,7 +3,7 @@ import java.nio.file.Files;
 import java.nio.file.Path;
 import java.util.NoSuchElementException;
 
-/** Long runs through all promises; their answers were worked out apart from the class, by a model of the document. */
+/** Long runs through all promises; their answers come from a second program with the same readings of the document. */
 public final class ModelRunsTest {
     public static void main(String[] args) throws IOException {
         Check c = new Check("runs");
