@@ -1,5 +1,6 @@
 import java.util.ArrayList;
 import java.util.List;
+import java.util.NoSuchElementException;
 
 /** What the tests share: an object, a tape writer, and a count of wrong answers. */
 final class Check {
@@ -34,6 +35,10 @@ final class Check {
             wrong++;
             System.out.println(promise + ": " + what + " answered <" + got + ">, due is <" + want + ">");
         }
+    }
+
+    int wrong() {
+        return wrong;
     }
 
     void end() {
@@ -76,6 +81,27 @@ final class Check {
         return x.ask();
     }
 
+    /** The clock behind n ticks, or -2 if tick throws. */
+    int tick(int n) {
+        try {
+            return x.tick(n);
+        } catch (IllegalArgumentException e) {
+            return -2;
+        }
+    }
+
+    /** What answer throws: 1 NoSuchElementException, 2 IndexOutOfBoundsException, 0 nothing. */
+    int thrownBy(int r, int what) {
+        try {
+            x.answer(r, what);
+            return 0;
+        } catch (NoSuchElementException e) {
+            return 1;
+        } catch (IndexOutOfBoundsException e) {
+            return 2;
+        }
+    }
+
     /** Asks and delivers all that comes by it. */
     int get(String text) {
         int r = ask(text);
@@ -113,6 +139,30 @@ final class Check {
             all.add(x.message(k, what));
         }
         return all.toString();
+    }
+
+    /** The latest one of the messages that wait. */
+    String latest() {
+        return message(x.total(0) - 1);
+    }
+
+    void deliverLatest() {
+        x.deliver(x.total(0) - 1);
+    }
+
+    /** All that can be seen of the object but its stores, answers and tape: to tell whether a call changed something. */
+    String state() {
+        StringBuilder b = new StringBuilder();
+        for (int what = 0; what <= 6; what++) {
+            b.append(x.total(what)).append(' ');
+        }
+        for (int n = 1; n <= 6; n++) {
+            b.append(node(n)).append(' ');
+        }
+        for (int k = 0; k < x.total(0); k++) {
+            b.append(message(k)).append(' ');
+        }
+        return b.append(x.fault()).toString();
     }
 
     /** VERSION, age, BLOCKS, MARK, part, place, VARY. */

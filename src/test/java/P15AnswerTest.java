@@ -1,5 +1,3 @@
-import java.util.NoSuchElementException;
-
 /** Promise 15: answer. */
 public final class P15AnswerTest {
     public static void main(String[] args) {
@@ -13,31 +11,20 @@ public final class P15AnswerTest {
         c.end();
     }
 
-    private static int thrown(Check c, int r, int what) {
-        try {
-            c.x.answer(r, what);
-            return 0;
-        } catch (NoSuchElementException e) {
-            return 1;
-        } catch (IndexOutOfBoundsException e) {
-            return 2;
-        }
-    }
-
     private static void wrongOnes(Check c) {
-        c.due("none has come", thrown(c, 0, 0), 1);
-        c.due("none, and no such what", thrown(c, 0, 9), 1);
+        c.due("none has come", c.thrownBy(0, 0), 1);
+        c.due("none, and no such what", c.thrownBy(0, 9), 1);
         c.ask("GET /1\n\n");
         int[] none = {-1, 1, 300, Integer.MIN_VALUE, Integer.MAX_VALUE};
         for (int r : none) {
-            c.due("answer " + r, thrown(c, r, 0), 1);
+            c.due("answer " + r, c.thrownBy(r, 0), 1);
         }
         int[] wrong = {-1, 9, Integer.MIN_VALUE, Integer.MAX_VALUE};
         for (int what : wrong) {
-            c.due("what " + what, thrown(c, 0, what), 2);
+            c.due("what " + what, c.thrownBy(0, what), 2);
         }
         for (int what = 0; what <= 8; what++) {
-            c.due("what " + what, thrown(c, 0, what), 0);
+            c.due("what " + what, c.thrownBy(0, what), 0);
         }
     }
 
