@@ -196,6 +196,8 @@ public final class B03UpdateTest {
         c.due("no-cache", howAfter(c, "max-age=5, no-cache", 0), 0);
         c.due("no-store with a number", howAfter(c, "max-age=5, no-store=1", 4), 1);
         c.due("no-store", howAfter(c, "max-age=5, no-store", 0), 0);
+        c.due("other words with a number", howAfter(c, "max-ag=9, max-ages=9, foo=9, min-fresh=9, max-stale=9", 0), 0);
+        c.due("other words without", howAfter(c, "max-age=5, no-cach, no-stores, xo-cache, only-if-cached", 4), 1);
     }
 
     private static void greatestNumbers(Check c) {
@@ -284,5 +286,7 @@ public final class B03UpdateTest {
         c.due("names of requests", c.put("PUT /1\nrange: x\nif-range:\nif-none-match: 5\naccept-language: \n\n"), 3);
         c.due("names beside those that count", c.put("PUT /1\nlengt: 256\nlengths: 256\nkey: z\nvar:\n\n"), 4);
         c.due("they do not count", c.x.answer(c.get("GET /1\n\n"), 3), 0);
+        c.due("but for the first letter", c.put("PUT /1\nxength: 256\nxeys: z\nxary: ,\nxache-control: ,\n\n"), 5);
+        c.due("but for the last letter", c.put("PUT /1\nlengtx: 256\nkeyx: z\nvarx: ,\ncache-controx: ,\n\n"), 6);
     }
 }

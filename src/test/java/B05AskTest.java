@@ -44,6 +44,7 @@ public final class B05AskTest {
         weightZero(b.of(LANGUAGE));
         weightsAlike(b.of(LANGUAGE));
         noLanguage(b.of(LANGUAGE));
+        nothingOfTheTextBefore(b.of(LANGUAGE));
         forms(b.of(FORM));
         lastOfAKind(b.of(CONTROL));
         otherwiseThanTold(b.of(CONTROL));
@@ -279,6 +280,17 @@ public final class B05AskTest {
         c.due("each alone", language(c, "it") * 100 + language(c, "fr") * 10 + language(c, "de"), 321);
     }
 
+    private static void nothingOfTheTextBefore(Check c) {
+        String[] lists = {"en=9", "de=8", "fr=7", "it=6", "xx"};
+        int[] due = {0, 1, 2, 3, 0};
+        for (int i = 0; i < lists.length; i++) {
+            c.ask("GET /" + i + "\naccept-language: " + lists[i] + "\naccept-encoding: gzip=" + i % 2 + "\n\n");
+            c.due("language and form of " + lists[i], c.x.message(i, 11), due[i] + 4 * (i % 2));
+        }
+        c.ask("GET /9\n\n");
+        c.due("without either", c.x.message(lists.length, 11), 0);
+    }
+
     private static void forms(Check c) {
         c.due("without the name", choice(c, ""), 0);
         c.due("gzip", choice(c, "accept-encoding: gzip\n"), 4);
@@ -326,6 +338,8 @@ public final class B05AskTest {
         c.due("no-cache=1", atAge5(c, "no-cache=1"), 1);
         c.due("no-cache", atAge5(c, "no-cache"), 0);
         c.due("other words", atAge5(c, "no-store, max-ag=0, max-ages=0, -, no-cach"), 1);
+        c.due("other words with a number", atAge5(c, "foo=99999, min-fres=99999, min-freshs=99999, only-if-cached=99999"), 1);
+        c.due("other words like max-stale", atAge5(c, "max-age=0, max-stal, max-stales=99, -max-stale"), 0);
         c.fresh();
         c.due("only-if-cached=0", c.x.answer(c.ask("GET /1\ncache-control: only-if-cached=0\n\n"), 0), 0);
         c.due("only-if-cached", c.x.answer(c.ask("GET /1\ncache-control: only-if-cached\n\n"), 0), 504);
@@ -337,6 +351,8 @@ public final class B05AskTest {
         c.due("any value", status(c, "x: \"~!  :,=999999"), "200 40");
         c.due("names of things", status(c, "length: x\nkeys:\nvary: ,"), "200 40");
         c.due("beside a name that counts", status(c, "ranges: bytes=0-1\nrang: bytes=0-1\nif-match: *"), "200 40");
+        c.due("but for its first letter", status(c, "xange: bytes=0-1\nxf-none-match: *\nbccept-language:"), "200 40");
+        c.due("but for its last letter", status(c, "rangx: bytes=0-1\nif-none-matcx: *\naccept-languagx:"), "200 40");
     }
 
     /** All keys: half of the hashes have their highest bit set, and each product wraps round. */

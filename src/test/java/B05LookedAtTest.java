@@ -29,6 +29,7 @@ public final class B05LookedAtTest {
 
     public static void main(String[] args) throws IOException {
         Boundary b = new Boundary(5);
+        clientsHaveLeastMark0(b.of("with a least MARK (0 for CLIENTS), perhaps FORCED"));
         markAtTheLeast(b.of(HAS));
         oneBlockMissing(b.of(HAS));
         noBlocksWanted(b.of(HAS));
@@ -85,6 +86,26 @@ public final class B05LookedAtTest {
         return how(c, asked);
     }
 
+    /** A purge of another path has come: an older ENTRY is enough for a CLIENT, but not for a FETCH. */
+    private static void clientsHaveLeastMark0(Check c) {
+        stored(c, "max-age=5, stale-if-error=99", 0);
+        c.x.purge(0, 9);
+        c.x.settle();
+        c.due("seen 1, mark 0", c.x.node(5, 8) * 10 + c.x.entry(5, 1, 0, 0, 3), 10);
+        c.due("a hit", how(c, "x"), 1);
+        c.x.tick(5);
+        c.due("stale", how(c, "max-stale=1"), 2);
+        c.x.settle();
+        c.due("its fetch told least mark 1", c.x.entry(5, 1, 0, 0, 3), 1);
+        c.x.purge(0, 9);
+        c.x.settle();
+        c.x.tick(5);
+        c.x.fail(1);
+        c.x.fail(2);
+        c.due("seen 2, mark 1", c.x.node(5, 8) * 10 + c.x.entry(5, 1, 0, 0, 3), 21);
+        c.due("stale on error", how(c, "x"), 2);
+    }
+
     private static void markAtTheLeast(Check c) {
         c.put("PUT /1\nlength: 20\ncache-control: max-age=50\n\n");
         c.x.purge(0, 9);
@@ -117,6 +138,7 @@ public final class B05LookedAtTest {
         c.due("15-47", c.x.answer(c.ask("GET /1\nrange: bytes=15-47\n\n"), 0), 0);
         c.due("16-48", c.x.answer(c.ask("GET /1\nrange: bytes=16-48\n\n"), 0), 0);
         c.due("head wants them as well", c.x.answer(c.ask("HEAD /1\n\n"), 0), 0);
+        c.due("and with a tag that matches", c.x.answer(c.ask("GET /1\nif-none-match: *\n\n"), 0), 0);
     }
 
     private static void noBlocksWanted(Check c) {

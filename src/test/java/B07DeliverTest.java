@@ -44,6 +44,7 @@ public final class B07DeliverTest {
         purgeByKey(b.of(BY_PURGE));
         oneOfSeveralPurges(b.of(BY_PURGE));
         purgeThatDidNotCome(b.of(BY_PURGE));
+        the1stOf60Purges(b.of("A node knows all that came there (since it was UP last)."));
         markAtTheLeast(b.of(BY_MARK));
         entryOf304Went(b.of(BY_304));
         entryOf304IsThere(b.of(BY_304));
@@ -55,6 +56,7 @@ public final class B07DeliverTest {
         blocksOfTheSameVersion(b.of(BLOCKS));
         blocksOfAnotherVersion(b.of(BLOCKS));
         noStore(b.of(NO_STORE));
+        lookedAtInTurn(b.of("Behind that all that WAITED are LOOKED AT again, in turn (a HIT, a MISS then counts as any)"));
         whateverItsAge(b.of(FIRST));
         forcedOrNot(b.of(FIRST));
         doesNotSuitTheFirst(b.of(FIRST));
@@ -344,6 +346,24 @@ public final class B07DeliverTest {
         c.due("until it comes", c.x.node(1, 1), 0);
     }
 
+    private static void the1stOf60Purges(Check c) {
+        for (int of = 1; of <= 3; of++) {
+            c.fresh();
+            fillForTheParent(c, "");
+            for (int n = 2; n <= 6; n++) {
+                c.x.fail(n);
+            }
+            for (int i = 1; i <= 60; i++) {
+                c.x.purge(0, of == 1 && i == 1 || of == 2 && i == 60 ? 1 : 9);
+                c.x.deliver(1);
+                c.x.lose(1);
+            }
+            c.due("all came", c.x.node(1, 8), 60);
+            c.x.deliver(0);
+            c.due("the first, the last, none of 60", c.x.node(1, 6), of < 3 ? 1 : 0);
+        }
+    }
+
     private static void markAtTheLeast(Check c) {
         c.x.purge(0, 9);
         c.x.settle();
@@ -413,6 +433,7 @@ public final class B07DeliverTest {
 
     private static void tenTicksFromNow(Check c) {
         put(c, "length: 20\n");
+        c.x.tick(4);
         c.ask("GET /1\n\n");
         steps(c, 3);
         c.x.purge(0, 1);
@@ -422,7 +443,7 @@ public final class B07DeliverTest {
         c.x.tick(9);
         c.due("18 ticks", c.x.answer(0, 0), 0);
         c.x.tick(1);
-        c.due("19 ticks", c.answer(0), "[504, 0, 0, 0, 0, 21, 19, 5, 0]");
+        c.due("19 ticks", c.answer(0), "[504, 0, 0, 0, 0, 21, 23, 5, 0]");
         c.due("one strike", c.x.node(5, 9), 1);
     }
 
@@ -476,6 +497,7 @@ public final class B07DeliverTest {
         c.due("just the new one", c.x.node(5, 1), 1);
         c.due("new, as the old one went before", c.entry(5, 1, 0, 0), "[2, 0, 0, 0, 0, 0, 0]");
         c.due("of the key alone", c.entry(4, 1, 1, 3), "[1, 0, 0, 0, 0, 0, 1]");
+        c.due("at the parent, too", c.x.entry(1, 1, 1, 3, 0) * 10 + c.x.entry(1, 1, 0, 0, 0), 12);
         // the same VARY: the others stay
         put(c, "cache-control: max-age=50\n");
         put(c, "vary: accept-language\ncache-control: max-age=50\n");
@@ -520,6 +542,21 @@ public final class B07DeliverTest {
         c.due("the other which stays", c.x.entry(5, 1, 0, 1, 0), 1);
         c.due("at the parent as well", c.x.entry(1, 1, 0, 0, 0) * 10 + c.x.entry(1, 1, 0, 1, 0), -9);
         c.due("nothing is sized", c.x.node(5, 2), 48);
+    }
+
+    private static void lookedAtInTurn(Check c) {
+        put(c, "length: 20\ncache-control: max-age=50\n");
+        c.ask("GET /1\n\n");
+        c.ask("GET /1\nrange: bytes=0-3\n\n");
+        c.ask("GET /1\ncache-control: no-cache\n\n");
+        c.ask("GET /1\nif-none-match: *\n\n");
+        c.ask("GET /1\ncache-control: no-cache\nrange: bytes=0-3\n\n");
+        steps(c, 4);
+        c.due("the first is no hit", c.x.answer(0, 0) * 10 + c.x.answer(0, 4), 2000);
+        c.due("the second is one", c.x.answer(1, 0) * 10 + c.x.answer(1, 4), 2061);
+        c.due("the third misses", c.message(0), "[0, 5, 1, 2, 1, 0, 0, 15, 0, 1, 1, 0]");
+        c.due("the fourth is a hit", c.x.answer(3, 0) * 10 + c.x.answer(3, 4), 3041);
+        c.due("the fifth waits behind the third", c.node(5), "[1, 1, 48, 1, 2, 2, 1, 2, 0, 0, 0, 0, 0]");
     }
 
     private static void whateverItsAge(Check c) {

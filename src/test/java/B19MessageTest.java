@@ -15,6 +15,7 @@ public final class B19MessageTest {
         zerosOfAFillWithoutAThing(b.of(NONE));
         zerosOfAPurgeAndAnAck(b.of(NONE));
         greatestOfAFetch(b.of(NONE));
+        greatestOfAFill(b.of(NONE));
         the100th(b.of(MOST));
         the101st(b.of(MOST));
         lostFetchIsOut(b.of(MOST));
@@ -101,6 +102,21 @@ public final class B19MessageTest {
         c.get("GET /31/3\n\n");
         c.ask("GET /31/3\nrange: bytes=255-\naccept-language: it\naccept-encoding: gzip\ncache-control: no-cache\n\n");
         c.due("the greatest of each", c.message(0), "[0, 6, 1, 2, 31, 3, 15, 15, 0, 1, 1, 7]");
+    }
+
+    private static void greatestOfAFill(Check c) {
+        c.put("PUT /31\nlength: 255\nvary: accept-language, accept-encoding\n\n");
+        for (int i = 0; i < 60; i++) {
+            c.x.purge(0, 0);
+            c.x.settle();
+        }
+        c.ask("GET /31/3\nrange: bytes=255-\naccept-language: it\naccept-encoding: gzip\ncache-control: no-cache\n\n");
+        c.x.deliver(0);
+        c.due("the parent's fetch", c.message(0), "[0, 1, 0, 1, 31, 3, 15, 15, 60, 1, 0, 7]");
+        c.x.deliver(0);
+        c.due("the origin's fill", c.message(0), "[1, 0, 1, 1, 31, 3, 200, 1, 60, 0, 0, 7]");
+        c.x.deliver(0);
+        c.due("the parent's fill", c.message(0), "[1, 1, 6, 1, 31, 3, 200, 1, 60, 0, 0, 7]");
     }
 
     /** 96 messages wait. */
