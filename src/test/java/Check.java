@@ -111,8 +111,10 @@ final class Check {
 
     String text(int r) {
         StringBuilder b = new StringBuilder();
-        for (int i = 0; x.letter(r, i) != EdgeHouse.NONE; i++) {
-            b.append((char) x.letter(r, i));
+        int next = x.letter(r, 0);
+        while (next != EdgeHouse.NONE) {
+            b.append((char) next);
+            next = x.letter(r, b.length());
         }
         return b.toString();
     }

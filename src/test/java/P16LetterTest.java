@@ -37,7 +37,20 @@ public final class P16LetterTest {
         c.put("PUT /3\nlength: 40\ncache-control: max-age=5\n\n");
         String whole = Check.bytes(3, 0, 1, 0, 0, 39);
         text(c, "GET /3\n\n", "200 OK\netag: \"8\"\nage: 0\ncache: miss\nlength: 40\n\n" + whole);
+        textsFromAnEntry(c, whole);
+        textsOfOthers(c, whole);
+    }
+
+    /** A new object with an entry of age 3: an object is used for at most 512 calls. */
+    private static void stored(Check c) {
+        c.fresh();
+        c.put("PUT /3\nlength: 40\ncache-control: max-age=5\n\n");
+        c.get("GET /3\n\n");
         c.x.tick(3);
+    }
+
+    private static void textsFromAnEntry(Check c, String whole) {
+        stored(c);
         text(c, "GET /3\n\n", "200 OK\netag: \"8\"\nage: 3\ncache: hit\nlength: 40\n\n" + whole);
         text(c, "HEAD /3\n\n", "200 OK\netag: \"8\"\nage: 3\ncache: hit\nlength: 40\n\n");
         text(c, "GET /3\nrange: bytes=-7\n\n",
@@ -46,6 +59,10 @@ public final class P16LetterTest {
             "206 Partial Content\netag: \"8\"\nage: 3\ncache: hit\ncontent-range: bytes 16-39/40\nlength: 24\n\n");
         text(c, "GET /3\nrange: bytes=15-17\n\n",
             "206 Partial Content\netag: \"8\"\nage: 3\ncache: hit\ncontent-range: bytes 15-17/40\nlength: 3\n\n" + whole.substring(15, 18));
+    }
+
+    private static void textsOfOthers(Check c, String whole) {
+        stored(c);
         text(c, "GET /3\nrange: bytes=40-\n\n",
             "416 Range Not Satisfiable\netag: \"8\"\nage: 3\ncache: hit\ncontent-range: bytes */40\n\n");
         text(c, "GET /3\nif-none-match: *\n\n", "304 Not Modified\netag: \"8\"\nage: 3\ncache: hit\n\n");
